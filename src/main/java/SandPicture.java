@@ -930,7 +930,7 @@ public final class SandPicture {
                     }
                 } else if (top >= 2) {
                     top--;
-                    stack[top - 1] = joined((char) -code, stack[top - 1], stack[top]);
+                    stack[top - 1] = joined(-code, stack[top - 1], stack[top]);
                 }
             }
             return top > 0 ? stack[0] : 0;
@@ -943,7 +943,7 @@ public final class SandPicture {
             return code == NAME_FIRST ? a : code == NAME_LAST ? c : b;
         }
 
-        private static int joined(char sign, int left, int right) {
+        private static int joined(int sign, int left, int right) {
             switch (sign) {
                 case '|': return left != 0 || right != 0 ? 1 : 0;
                 case '&': return left != 0 && right != 0 ? 1 : 0;

@@ -140,6 +140,8 @@ public final class PromisesTest {
             is("adds 10 " + k, x.does(k, 2, 10), addsOf10[k]);
             is("adds 0 " + k, x.does(k, 2, 0), addsOf0[k]);
         }
+        is("proud of 1", x.does(4, 1, 1), 1);
+        is("proud of 1", x.does(4, 2, 1), 1);
         is("most", x.does(4, 1, 999), 100);
         x.set(3, 1, 1);
         is("old, 0 at least", x.does(3, 0, 9), 0);
@@ -293,6 +295,23 @@ public final class PromisesTest {
         is("count of faulty tables", novice.count(3), 1);
         is("no sand is lost", novice.grains(0) + novice.grains(1) + novice.grains(4), 1000);
 
+        SandPicture held = calm();
+        Due.text(held, "back 0");
+        held.monk(0, 30, 2);
+        held.hours(1);
+        held.need(2, 40);
+        held.hours(1);
+        is("ten more, and no more", held.grains(4), 960);
+        held.hours(1);
+        held.need(2, 20);
+        held.hours(1);
+        is("none, if more is done than is needed", held.grains(4), 930);
+        is("all of it is spilt", held.grains(0), 70);
+        held.river(2, 7);
+        held.river(0, 3);
+        held.hours(1);
+        is("the sand of its own river", held.table(2, 1), 7);
+
         SandPicture dry = calm();
         dry.monk(5, 9, 0);
         dry.river(0, 0);
@@ -334,6 +353,32 @@ public final class PromisesTest {
         few.hours(50);
         is("a tenth of 9 is none", few.table(0, 1), 9);
         is("no faults", few.grains(5), 0);
+
+        SandPicture one = calm();
+        one.monk(0, 10, 0);
+        one.hours(1);
+        one.river(0, 0);
+        one.wind(100);
+        one.hours(50);
+        is("one grain is blown", one.table(0, 1), 9);
+        is("it lies at the next table", one.table(1, 1), 1);
+        is("one fault", one.table(1, 2), 1);
+        is("one fault of all", one.grains(5), 1);
+
+        for (int seed = 0; seed < 300; seed++) {
+            int[] lot = {seed};
+            int rest = drawn(lot) % 100;
+            SandPicture below = calm();
+            below.seed(seed);
+            below.wind(rest);
+            below.hours(1);
+            is("not below the wind", below.count(7), lot[0]);
+            below.seed(seed);
+            below.wind(rest + 1);
+            below.hours(1);
+            drawn(lot);
+            is("below the wind", below.count(7), lot[0]);
+        }
 
         SandPicture draws = calm();
         int[] z = {1};
@@ -578,6 +623,8 @@ public final class PromisesTest {
         }
         is("one at least each hour", x.slower(0, 1), 39);
         is("39 would be done in two", x.slower(0, 2), 19);
+        x.need(0, 2);
+        is("the least pace", x.slower(0, 1), 1);
         x.need(0, 1);
         is("none", x.slower(0, 1), NONE);
         is("pace stays", x.told(0, 1), 1);
@@ -650,6 +697,14 @@ public final class PromisesTest {
         is("text", x.text(), 0);
         is("used up", x.count(6), 0);
         is("1+2*3", x.fine(), 7);
+        Due.tape(x, "fine 12+34");
+        x.trim(6);
+        is("what is trimmed away is gone", x.text(), 1);
+        is("what is trimmed away is gone", x.fine(), 1);
+        Due.tape(x, "fine 12+34");
+        x.trim(7);
+        is("what is trimmed away is gone", x.text(), 2);
+        is("what is trimmed away is gone", x.fine(), 12);
         x.feed(0x66696e65, 0x20312b80, 0);
         is("a byte above 127 is a sign", x.text(), -107);
         is("used up", x.count(6), 0);
@@ -694,19 +749,19 @@ public final class PromisesTest {
         String shut8 = "))))))))";
         String not8 = "!!!!!!!!";
         String[] texts = {
-            "", "     ", "pour", "pour  ", "pours 1", "po ur 1", "Pour 1", "12", "pour12", "pour p12", "pour 12p",
+            "", "     ", "pour", "pour  ", "xour 1", "pours 1", "pourz 1", "poura 1", "po ur 1", "Pour 1", "12", "pour12", "pour p12", "pour 12p",
             "pour 1 2", "pour 12345", "pour 00000", "pour h", "back p", "fine d", "pour pd", "pour +1", "pour 1+", "pour 1+ ",
             "pour 1++2", "pour (", "pour ()", "pour (1", "pour 1)", "pour (1))", "pour 1<2<3", "pour 1<2=3", "pour 1<2|3<4<5",
             "pour !", "pour 1!", "pour p(", "pour P", "pour 1,2", "pour 1\t", "pour\n1", "pour 1=", "pour pour 1", "pour 1 & | 2",
             "pour " + open8 + "(1)" + shut8, "pour " + not8 + "!1", "fine" + open8 + "h" + shut8 + "+(" + open8,
-            "pour !(!(!(!(!(!(!(!(!p))))))))", "back 1%2", "fine -h", "fine h-", "fine 99999999999", "pourback 1", "p", "pour x1", "fine s<h>s"};
+            "pour !(!(!(!(!(!(!(!(!p))))))))", "back 1%2", "fine -h", "fine h-", "fine 99999999999", "pourback 1", "p", "pour x1", "fine s<h>s", "fine 1\0", "fine \0"};
         int[] places = {
-            0, 5, 4, 6, 0, 0, 0, 0, 4, 6, 7,
+            0, 5, 4, 6, 0, 0, 0, 0, 0, 0, 0, 4, 6, 7,
             7, 5, 5, 5, 5, 5, 5, 5, 7, 8,
             7, 6, 6, 7, 6, 8, 8, 8, 12,
             6, 6, 6, 5, 6, 6, 4, 7, 5, 9,
             13, 13, 30,
-            21, 6, 5, 7, 5, 0, 0, 6, 8};
+            21, 6, 5, 7, 5, 0, 0, 6, 8, 6, 5};
         is("as many", texts.length, places.length);
         for (int i = 0; i < texts.length && i < places.length; i++) {
             SandPicture x = new SandPicture();
@@ -731,11 +786,11 @@ public final class PromisesTest {
         x.sneeze(0);
         is("spilt", x.fine(), 60);
         String[] texts = {
-            "h", "s", "h+s*2", "s/h/2", "s-h-1", "7/0", "0/0", "(0-7)/2", "7/(0-2)", "1|0", "0|0", "5|0", "2&1", "2&0", "5", "!5", "!0", "!!5",
+            "2<2", "2>2", "1=2", "h", "s", "h+s*2", "s/h/2", "s-h-1", "7/0", "0/0", "(0-7)/2", "7/(0-2)", "1|0", "0|0", "5|0", "2&1", "2&0", "5", "!5", "!0", "!!5",
             "1<2", "2<1", "2=2", "2>1", "1>2", "3>2&1", "1+2<4", "1<2+0=1", "9999*9999*9999", "(0-9999*9999*30)/(0-1)",
             "1|1&0", "!1+1", "!h=0", "2*3+4*5", "100/10*2", "h=3", "1=1|0=1&0", "8-2*3", "((s))", "2&1|0", "3<4&4<5", "s>h|h/0"};
         int[] due = {
-            3, 60, 123, 10, 56, 0, 0, -3, -3, 1, 0, 1, 1, 0, 5, 0, 1, 1,
+            0, 0, 0, 3, 60, 123, 10, 56, 0, 0, -3, -3, 1, 0, 1, 1, 0, 5, 0, 1, 1,
             1, 0, 1, 1, 0, 1, 1, NONE, 9999 * 9999 * 9999, -(0 - 9999 * 9999 * 30),
             1, 1, 1, 26, 20, 1, 1, 2, 60, 1, 1, 1};
         is("as many", texts.length, due.length);
@@ -750,6 +805,9 @@ public final class PromisesTest {
             }
             x.back();
         }
+        Due.text(x, "fine !5)");
+        Due.text(x, "fine 7");
+        is("nothing is left of a text that had a fault", x.fine(), 7);
         Due.text(x, "fine (0-2048*2048)*512/(0-1)");
         is("the least int by -1 wraps", x.fine(), LOW);
     }
@@ -853,6 +911,7 @@ public final class PromisesTest {
         is("no number", x.item(1, 2), KIND);
         x.sheet(1, 1, 3);
         x.lay(1, 2, 1);
+        is("all 0 again", x.item(1, 0), 0);
         is("all 0 again", x.item(1, 2), 0);
     }
 
@@ -884,6 +943,9 @@ public final class PromisesTest {
         y.monk(0, 30, 1);
         y.hours(1);
         y.sheet(0, 1, 8);
+        y.mark(0, 0, 1);
+        is("the first place", y.reads(0), 0);
+        y.mark(0, 0, 0);
         is("done is 30", y.reads(0), 1);
         y.mark(0, 1, 30);
         is("no table", y.reads(0), 6);
@@ -1008,7 +1070,7 @@ public final class PromisesTest {
         is("bad", x.rest(-1, 1), BAD);
     }
 
-    private static int told(SandPicture x, int many, int wrongAt) {
+    private static void told(SandPicture x, int many, int wrongAt) {
         SandPicture same = busy(9);
         for (int i = 0; i < many; i++) {
             if (i % 2 == 0) {
@@ -1017,7 +1079,6 @@ public final class PromisesTest {
             int v = i % 2 == 0 ? same.grains(1) : same.grains(2) + same.grains(3) + same.grains(4);
             x.tell(i == wrongAt ? v + 1 : v);
         }
-        return many;
     }
 
     private static void rows() {
