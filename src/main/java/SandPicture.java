@@ -1173,12 +1173,13 @@ public final class SandPicture {
             return place >= 0 && many >= 0 && place <= size && many <= size - place;
         }
 
-        /** How far the places that are TABLES are from what is DONE there, together. */
+        /** How far the places are from what is DONE there, together; beyond all TABLES 0 stands for DONE. */
         int differsFrom(int[] done) {
             int all = 0;
-            for (int k = 0; k < size && k < done.length; k++) {
+            for (int k = 0; k < size; k++) {
                 if (hasNumber(k)) {
-                    all += Math.abs(done[k] - places[k]);
+                    int doneThere = k < done.length ? done[k] : 0;
+                    all += Math.abs(doneThere - places[k]);
                 }
             }
             return all;

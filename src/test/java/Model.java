@@ -491,9 +491,11 @@ public final class Model {
             t.monks.get(monk).pace = p;
             t.hour(null);
             int all = 0;
-            for (int k = 0; k < Math.min(6, sheets[sheet].length); k++) {
+            int[] done = new int[24];
+            for (int k = 0; k < 6; k++) done[k] = t.tables[k].done;
+            for (int k = 0; k < sheets[sheet].length; k++) {
                 double v = sheets[sheet][k];
-                if (!Double.isNaN(v)) all += (int) Math.abs(v - t.tables[k].done);
+                if (!Double.isNaN(v)) all += (int) Math.abs(v - done[k]);
             }
             if (all < least) {
                 least = all;

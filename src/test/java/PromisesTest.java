@@ -24,6 +24,7 @@ public final class PromisesTest {
         choices();
         finishing();
         pacing();
+        pacingBeyondTables();
         tape();
         texts();
         faults();
@@ -652,9 +653,9 @@ public final class PromisesTest {
         x.mark(0, 1, 10);
         x.mark(0, 7, 500);
         is("40 at most", x.paced(0, 0, 0), 40);
-        is("beyond all tables 0", x.paced(0, 0, 1), 1 + 5);
+        is("beyond all tables from 0", x.paced(0, 0, 1), 1 + 5 + 500);
         is("slow, of several the least", x.paced(0, 1, 0), 20);
-        is("differences", x.paced(0, 1, 1), 34);
+        is("differences", x.paced(0, 1, 1), 34 + 500);
         x.sheet(1, 1, 2);
         x.mark(1, 0, NONE);
         x.mark(1, 1, -3);
@@ -674,6 +675,34 @@ public final class PromisesTest {
         x.mark(0, 7, 0);
         is("wiped behind one hour", x.paced(0, 0, 0), 20);
         is("wiped behind one hour", x.paced(0, 0, 1), 0);
+    }
+
+    private static void pacingBeyondTables() {
+        part("24 paced, beyond all tables");
+        SandPicture x = calm();
+        x.monk(0, 7, 5);
+        x.sheet(0, 0, 6);
+        x.mark(0, 5, 9);
+        is("the last table is one", x.paced(0, 0, 0), 9);
+        is("the last table is one", x.paced(0, 0, 1), 0);
+        x.sheet(0, 0, 7);
+        x.mark(0, 5, 9);
+        x.mark(0, 6, 1);
+        is("the first place beyond", x.paced(0, 0, 1), 1);
+        x.mark(0, 6, -32768);
+        is("shorts, signs left out", x.paced(0, 0, 1), 32768);
+        is("the pace does not hang on it", x.paced(0, 0, 0), 9);
+        x.sheet(1, 1, 24);
+        x.mark(1, 5, 3);
+        for (int k = 6; k < 24; k++) {
+            x.mark(1, k, k % 2 == 0 ? 99999 : -99999);
+        }
+        is("floats, each place", x.paced(1, 0, 1), 18 * 99999);
+        x.mark(1, 23, NONE);
+        is("no number does not count", x.paced(1, 0, 1), 17 * 99999);
+        x.mark(1, 5, NONE);
+        is("no place of a table: the least", x.paced(1, 0, 0), 1);
+        is("no place of a table", x.paced(1, 0, 1), 17 * 99999);
     }
 
     private static void tape() {
