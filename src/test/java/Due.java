@@ -8,6 +8,10 @@ final class Due {
         part = name;
     }
 
+    int asked() {
+        return asked;
+    }
+
     void is(String call, long got, long want) {
         asked++;
         if (got != want) {
