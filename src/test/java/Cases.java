@@ -137,9 +137,11 @@ abstract class Cases {
         return Due.text(new SandPicture(), bytes);
     }
 
-    /** What fine gives by a text in a new picture. */
+    /** What fine gives by a text, where neither THE HOUR (3) nor SPILT (30) is 0: so no number can be taken for a name. */
     static int fineBy(String e) {
-        SandPicture x = new SandPicture();
+        SandPicture x = calmWith(10, 0);
+        x.hours(3);
+        x.sneeze(0);
         is("[" + e + "]", Due.text(x, "fine " + e), 0);
         return x.fine();
     }

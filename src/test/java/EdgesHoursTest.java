@@ -129,6 +129,34 @@ public final class EdgesHoursTest extends Cases {
         is("sand", x.grains(2), 979);
     }
 
+    static void t2_spiltIsMoreByEachSpilling() {
+        SandPicture x = calm();
+        Due.text(x, "pour 20");
+        x.monk(PROUD, 1, 0);
+        x.monk(PROUD, 1, 1);
+        x.need(0, 999);
+        x.need(1, 999);
+        x.sneeze(0);
+        x.river(0, 10);
+        x.river(1, 10);
+        x.hours(1);
+        is("two of each ten", x.grains(0), 4);
+        x.river(0, 10);
+        x.hours(1);
+        is("and two more", x.grains(0), 6);
+        is("sneezed too", x.sneeze(0) + 6, x.grains(0));
+    }
+
+    static void t2_faultsAreMoreByEachPouring() {
+        SandPicture x = calm();
+        x.monk(GUEST, 1, 0);
+        x.monk(GUEST, 1, 0);
+        x.hours(1);
+        is("two", x.table(0, 2), 2);
+        x.hours(3);
+        is("eight", x.table(0, 2), 8);
+    }
+
     static void t2_xIsTheRestBy10() {
         boolean[] seen = new boolean[10];
         for (int seed = 0; seed < 100; seed++) {
@@ -239,6 +267,24 @@ public final class EdgesHoursTest extends Cases {
             drawn(z);
         }
         is("two draws an hour", x.count(7), z[0]);
+    }
+
+    static void t2_doneThereIsSoMuchMore() {
+        SandPicture x = calmWith(1, 2);
+        x.monk(GUEST, 9, 3);
+        Due.text(x, "pour 999");
+        x.need(2, 999);
+        x.need(3, 999);
+        x.river(2, 50);
+        x.river(0, 9);
+        x.hours(1);
+        x.wind(100);
+        x.seed(seedThatBlowsFrom(2, 2));
+        x.hours(1);
+        is("9, and 5 more", x.table(3, 1), 14);
+        is("a guest's fault, and one more", x.table(3, 2), 2);
+        is("what is left", x.table(2, 1), 45);
+        is("no grain is lost", x.grains(1), 59);
     }
 
     static void t2_blownGrainsFinishATableInTheSameHour() {
@@ -398,6 +444,17 @@ public final class EdgesHoursTest extends Cases {
         x.hours(1);
         is("full", x.grains(2), 99999);
         is("spilt", x.grains(0), 5);
+    }
+
+    static void t2_spiltIsMoreByEachWiping() {
+        SandPicture x = calmWith(10, 0, 1);
+        Due.text(x, "back d-3");
+        x.need(0, 10);
+        x.need(1, 10);
+        x.hours(1);
+        is("three of each", x.grains(0), 6);
+        x.hours(1);
+        is("and again", x.grains(0), 12);
     }
 
     static void t2_wIsWipedAheadOfThisOne() {

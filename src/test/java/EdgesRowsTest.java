@@ -131,6 +131,15 @@ public final class EdgesRowsTest extends Cases {
         }
     }
 
+    static void p41_missingThoughItWasToldAheadOfAnotherCheck() {
+        SandPicture x = pourer();
+        tellRows(x, 6);
+        is("as due", x.check(3), 0);
+        tellRows(x, 5);
+        is("the last one is not told anew", x.check(3), 6);
+        is("none is told anew", x.check(3), 1);
+    }
+
     static void p41_tooMany() {
         for (int many = 7; many <= 60; many++) {
             SandPicture x = pourer();
@@ -162,6 +171,13 @@ public final class EdgesRowsTest extends Cases {
             tellRows(x, 2 * left);
             is("as many as asked, left " + left, x.check(Math.max(1, left)), 0);
         }
+    }
+
+    static void p41_notFewerIfOnlyTheHourNowIs9999() {
+        SandPicture x = pourer();
+        passTo(x, 9999);
+        tellRows(x, 60);
+        is("thirty from the image's hour", x.check(30), 0);
     }
 
     static void p41_byTheImageNotByNow() {
@@ -331,6 +347,26 @@ public final class EdgesRowsTest extends Cases {
         x.back();
         other.trim(0);
         alike("behind back", x, other);
+    }
+
+    static void t5_endsWipedSpiltAndTheHourAreKept() {
+        SandPicture x = calmWith(10, 0, 1, 2, 3, 4, 5);
+        for (int t = 0; t < 6; t++) {
+            x.need(t, 10);
+        }
+        Due.text(x, "back d-1");
+        x.hours(2);
+        x.keep();
+        x.hours(5);
+        is("ends now", x.grains(7), 7);
+        for (int i = 0; i < 2; i++) {
+            x.back();
+            is("ends", x.grains(7), 2);
+            is("wiped", x.grains(6), 12);
+            is("spilt", x.grains(0), 12);
+            is("the hour", x.count(1), 2);
+            x.hours(1);
+        }
     }
 
     static void t5_textsOfTheImageCountAgain() {

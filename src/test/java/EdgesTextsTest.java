@@ -252,6 +252,14 @@ public final class EdgesTextsTest extends Cases {
         is("key", x.textTold(1, 0), 1);
     }
 
+    static void p29_aFaultLeavesNoneOfItsNumbers() {
+        SandPicture x = new SandPicture();
+        is("a fault behind three", Due.text(x, "fine 1+2+3+"), -111);
+        is("the next", Due.text(x, "back d"), 0);
+        is("its one", x.textTold(0, 1), 1);
+        is("its key", x.textTold(0, 0), 1);
+    }
+
     static void p29_onlyTells() {
         onlyTells("textTold", x -> x.textTold(3, 1));
     }
@@ -312,6 +320,38 @@ public final class EdgesTextsTest extends Cases {
         faulty("1 pour", 0);
         faulty("(pour 1)", 0);
         faulty("   pou", 3);
+    }
+
+    static void t4_eachLetterOfAKeyCounts() {
+        for (String key : KEYS) {
+            for (int i = 0; i < 4; i++) {
+                faulty(key.substring(0, i) + "z" + key.substring(i + 1) + " 1", 0);
+                faulty(key.substring(0, i) + key.substring(i + 1) + " 1", 0);
+                if (i > 0) {
+                    faulty(key.substring(0, i) + " " + key.substring(i) + " 1", 0);
+                }
+            }
+        }
+    }
+
+    static void t4_wordsAreOfAToZOrOf0To9() {
+        for (char c : new char[] {'a', 'z'}) {
+            faulty("fine" + c + " 1", 0);
+            faulty(c + "fine 1", 0);
+            faulty("fine 1+h" + c, 7);
+        }
+        for (char c : new char[] {'`', '{', 'A', 'Z', '_'}) {
+            faulty("fine" + c + " 1", 4);
+            faulty(c + "fine 1", 0);
+            faulty("fine 1+h" + c, 8);
+        }
+        for (char c : new char[] {'0', '9'}) {
+            faulty("fine 1+1234" + c, 7);
+            faulty("fine" + c, 4);
+            is("two digits", fineBy("1" + c), 10 + c - '0');
+        }
+        faulty("fine 1234:", 9);
+        faulty("fine 1234/", 10);
     }
 
     static void t4_namesOfEachKeyAndNoOthers() {
@@ -557,6 +597,25 @@ public final class EdgesTextsTest extends Cases {
         is("7/-2", fineBy("7/(0-2)"), -3);
         is("-7/-2", fineBy("(0-7)/(0-2)"), 3);
         is("-1/2", fineBy("(0-1)/2"), 0);
+    }
+
+    static void t4_aNumberIsItselfWhateverTheNamesAre() {
+        for (int v : new int[] {0, 1, 2, 3, 4, 30, 9999}) {
+            is("" + v, fineBy("" + v), v);
+        }
+        is("h", fineBy("h"), 3);
+        is("s", fineBy("s"), 30);
+        SandPicture x = calm();
+        x.monk(GUEST, 9, 0);
+        x.need(0, 27);
+        x.hours(2);
+        Due.text(x, "back 0");
+        x.hours(1);
+        is("not its faults", x.grains(2), 973);
+        Due.text(x, "pour 5");
+        x.hours(1);
+        Due.text(x, "pour 0");
+        is("not done", x.does(0, 0, 9), 0);
     }
 
     static void t4_testsGive1Or0() {
